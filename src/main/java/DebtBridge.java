@@ -702,35 +702,26 @@ public final class DebtBridge {
                 end++;
             }
             start = end;
-            if (start >= length) {
-                kind = END;
-            } else if (isLetter(text[start])) {
+            kind = start < length ? WRONG : END;
+            while (end < length && text[end] >= 'a' && text[end] <= 'z') {
                 kind = WORD;
-                while (end < length && isLetter(text[end])) {
-                    end++;
-                }
-            } else if (isDigit(text[start])) {
-                number = 0;
-                while (end < length && isDigit(text[end])) {
-                    // Kept small: of a number too long only its place matters.
-                    number = number % 1000 * 10 + text[end] - '0';
-                    end++;
-                }
+                end++;
+            }
+            if (kind != WRONG) {
+                return;
+            }
+            number = 0;
+            while (end < length && text[end] >= '0' && text[end] <= '9') {
+                // Kept small: of a number too long only its place matters.
+                number = number % 1000 * 10 + text[end] - '0';
+                end++;
+            }
+            if (end > start) {
                 kind = end - start > 3 ? WRONG : NUMBER;
             } else if (SIGNS.indexOf((char) (text[start] & 255)) >= 0) {
                 kind = SIGN;
                 end++;
-            } else {
-                kind = WRONG;
             }
-        }
-
-        private static boolean isLetter(byte b) {
-            return b >= 'a' && b <= 'z';
-        }
-
-        private static boolean isDigit(byte b) {
-            return b >= '0' && b <= '9';
         }
 
         /** Always false, so that who refuses can end its reading with it. */
@@ -966,33 +957,25 @@ public final class DebtBridge {
 
         private boolean readUnit(int depth) {
             boolean negated = isWord("not");
-            if (!negated && !isSign('[')) {
-                return readComparison(depth);
+            if (negated || isSign('[')) {
+                if (depth >= MOST_NESTED) {
+                    return refuse(ONE_TOO_MANY);
+                }
+                advance();
+                if (!negated) {
+                    return readTruth(depth + 1) && takeSign(']');
+                }
+                if (!readUnit(depth + 1)) {
+                    return false;
+                }
+                emit(NOT);
+                return true;
             }
-            if (depth >= MOST_NESTED) {
-                return refuse(ONE_TOO_MANY);
-            }
-            advance();
-            if (!negated) {
-                return readTruth(depth + 1) && takeSign(']');
-            }
-            if (!readUnit(depth + 1)) {
-                return false;
-            }
-            emit(NOT);
-            return true;
-        }
-
-        private boolean readComparison(int depth) {
             if (!readSum(depth)) {
                 return false;
             }
-            int compared = EQUAL;
-            if (isSign('<')) {
-                compared = BELOW;
-            } else if (isSign('>')) {
-                compared = ABOVE;
-            } else if (!isSign('=')) {
+            int compared = comparison();
+            if (compared == NONE) {
                 return refuse(CANT_STAND);
             }
             advance();
@@ -1001,6 +984,16 @@ public final class DebtBridge {
             }
             emit(compared);
             return true;
+        }
+
+        private int comparison() {
+            if (isSign('=')) {
+                return EQUAL;
+            }
+            if (isSign('<')) {
+                return BELOW;
+            }
+            return isSign('>') ? ABOVE : NONE;
         }
 
         private boolean readSum(int depth) {
@@ -1309,6 +1302,7 @@ public final class DebtBridge {
         }
 
         void breakPlanks() {
+            // As weighAll() does; this one is called from so far down that a call more is too deep.
             for (int p = 0; p < plan.people; p++) {
                 weights[p] = weightOf(p);
             }
