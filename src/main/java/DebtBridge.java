@@ -1870,20 +1870,12 @@ public final class DebtBridge {
             int fewest = NONE;
             for (int set = 0; set < 1 << live.plan.people; set++) {
                 boolean fewer = fewest == NONE || Integer.bitCount(set) < Integer.bitCount(fewest);
-                if (fewer && owesAllOf(p, set) && getsOverWithout(p, set)) {
+                // The fewest have nobody in them whom it owes nothing: without that one they'd be fewer.
+                if (fewer && getsOverWithout(p, set)) {
                     fewest = set;
                 }
             }
             return fewest;
-        }
-
-        private boolean owesAllOf(int p, int set) {
-            for (int q = 0; q < live.plan.people; q++) {
-                if ((set >> q & 1) != 0 && live.owing(p, q) == 0) {
-                    return false;
-                }
-            }
-            return true;
         }
 
         private boolean getsOverWithout(int p, int set) {

@@ -67,6 +67,15 @@ public final class BridgeTests {
         B.due("bridge(0)", x.bridge(0), -32);
         B.due("two texts, the first read", Bench.feed(x, TWO + "    planks 3 bear 5;") > 0 ? x.bridge(16) : 0, 1);
         B.due("the rest is gone", x.count(11), 0);
+        Bench.feed(x, "planks 2 bear 55;day 12;");
+        B.due("cut in a number", x.bridge(15), -32);
+        B.due("its end", x.fault(1), 15);
+        Bench.feed(x, "planks 2 bear 55;days;");
+        B.due("cut in a word", x.bridge(20), -32);
+        B.due("its end", x.fault(1), 20);
+        Bench.feed(x, "planks 2 bear 555555;");
+        B.due("cut ahead of a fourth digit", x.bridge(17), -32);
+        B.due("its end", x.fault(1), 17);
 
         // who weighs too much falls at once; what lies beside is looked at then, without it
         x = Bench.told("planks 3 bear 5;plank 1 bears 2;person at 1;person;owes 0 to 1 of 6;");
@@ -103,6 +112,15 @@ public final class BridgeTests {
         B.due("lines", x.count(12), 3);
         B.due("x", x.seed(5), 0);
         B.due("no law, no snow from before", x.person(0, 4), 0);
+        B.due("snowy 0 as long as it isn't told", x.days(1), 0);
+
+        // planks told anew are whole, and not mended
+        x = Bench.told("planks 2 bear 9;person at 1;weighs:20;");
+        x.mend(1);
+        B.due("broken", x.count(7), 1);
+        B.due("another one", Bench.tell(x, "planks 2 bear 9;person;"), 2);
+        B.due("whole", x.count(7), 0);
+        B.due("not mended", x.plank(1, 3), 0);
     }
 
     private static void struck() {
@@ -145,6 +163,29 @@ public final class BridgeTests {
         fault("planks 0002 bear 5;", 1, 7);
         fault("planks 12345 bear 5;", 1, 7);
         fault("Planks 2 bear 5;", 1, 0);
+        fault("xlanks 2 bear 5;", 2, 0);
+        fault("zoo 2 bear 5;", 2, 0);
+        fault("planks 2 bear day 1;", 2, 14);
+        fault("planks 2 bear person;", 2, 14);
+        fault("planks day 1;", 2, 7);
+        fault(TWO + "plank 0 bears day 1;", 2, 30);
+        fault(TWO + "plank day 1;", 2, 22);
+        fault(TWO + "snowy day 1;", 2, 22);
+        fault(TWO + "day day 1;", 2, 20);
+        fault(TWO + "person at day 1;", 2, 26);
+        fault(TWO + "person;person;owes 0 to 1 of day 1;", 2, 45);
+        fault(TWO + "person;person;owes day 1;", 2, 35);
+        fault(TWO + "weighs day 1;", 2, 23);
+        fault(TWO + "lets day 1;", 2, 21);
+        fault(TWO + "day 1 day 1;", 2, 22);
+        fault(TWO + "weighs:1*;", 2, 25);
+        fault(TWO + "weighs:1*-1;", 2, 25);
+        fault(TWO + "weighs:();", 2, 24);
+        fault(TWO + "lets:1=1 and;", 2, 28);
+        fault(TWO + "lets:1=;", 2, 23);
+        fault(TWO + "lets:not;", 2, 24);
+        fault(TWO + "lets:;", 2, 21);
+        fault(TWO + "lets:[];", 2, 22);
         fault("plAnks 2 bear 5;", 2, 0);
         fault("\tplanks 2 bear 5;", 1, 0);
         fault(TWO + "day 1;#", 1, 22);
@@ -336,6 +377,10 @@ public final class BridgeTests {
         B.due("what -1", x.plank(0, -1), -2);
         x = Bench.told("planks 3 bear 9;plank 1 bears 0;person at 1;person at 3;weighs:3;");
         B.due("half of both together, cut", x.plank(1, 1), 3);
+        DebtBridge y = Bench.told("planks 3 bear 9;person at 1;person;owes 0 to 1 of 5;");
+        y.tear(0, 1);
+        y.undo(1);
+        B.due("load, undone", y.plank(0, 1), 5);
         B.due("broken", x.plank(1, 2), 1);
         B.due("the others hold", x.count(7), 2);
     }

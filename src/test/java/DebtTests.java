@@ -30,6 +30,7 @@ public final class DebtTests {
         B.due("5 and 4", x.coin(), 9);
         x = Bench.told(SIX + "owes 0 to 1 of 9;owes 1 to 0 of 9;");
         B.due("even", x.coin(), 0);
+        B.due("0 is owed", Bench.told(SIX + "owes 1 to 0 of 9;").coin(), 9);
         B.due("nobody", new DebtBridge().coin(), 0);
     }
 
@@ -52,6 +53,12 @@ public final class DebtTests {
     private static void rings() {
         DebtBridge x = Bench.told(SIX + "owes 0 to 1 of 9;owes 1 to 2 of 9;owes 2 to 0 of 9;owes 1 to 0 of 2;owes 3 to 0 of 1;");
         B.due("0 1 2, 0 1", x.rings(), 2);
+        B.due("asked again", x.rings(), 2);
+        x.tear(2, 0);
+        B.due("0 1", x.rings(), 1);
+        B.due("of it", x.ring(0), 4);
+        x.tear(1, 0);
+        B.due("none", x.ring(0), -1);
         B.due("none", Bench.told(SIX + "owes 0 to 1 of 9;").rings(), 0);
         StringBuilder all = new StringBuilder(SIX);
         for (int p = 0; p < 6; p++) {
@@ -108,6 +115,8 @@ public final class DebtTests {
         B.due("today", x.heaviest(), 0);
         x.days(1);
         B.due("today", x.heaviest(), 5);
+        x.undo(1);
+        B.due("undone", x.heaviest(), 0);
     }
 
     private static void forgive() {

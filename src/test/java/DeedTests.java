@@ -65,6 +65,9 @@ public final class DeedTests {
         B.due("a broken plank, ahead of all but no such", x.step(0, true), -12);
         B.due("mended", x.mend(0), 3);
         B.due("whom it owes is fallen; it falls", x.step(0, true), -1);
+        DebtBridge y = Bench.told("planks 2 bear 9;person at 2;person at 1;person at 3;owes 0 to 1 of 10;");
+        B.due("the last plank is broken", y.step(1, true), -12);
+        B.due("from the other side", y.step(2, false), -12);
         B.due("fallen", x.count(2), 3);
         x = Bench.told("planks 3 bear 9;person at 1;person at 3;person;lets:others<2;");
         B.due("others: itself aside", x.step(0, true), 2);
@@ -176,6 +179,15 @@ public final class DeedTests {
         B.due("three, from any one on", x.cancel(0), 5);
         B.due("2 to 0", x.owes(2, 0), 1);
         B.due("papers", x.count(5), 1);
+        B.due("debts", x.count(6), 1);
+        B.due("debt", x.person(0, 1) + x.person(1, 1), 0);
+        B.due("itself", x.owes(2, 2) + x.owes(0, 0), 0);
+        DebtBridge y = Bench.told("planks 1 bear 9;person;person;person;person;person;person;owes 0 to 2 of 9;owes 2 to 4 of 8;"
+            + "owes 4 to 1 of 7;owes 1 to 5 of 6;owes 5 to 3 of 5;owes 3 to 0 of 4;");
+        Bench.fill(y, 0, 4, 1, 5, 3, 0, 2);
+        B.due("six", y.cancel(0), 4);
+        B.due("debts", y.count(6), 15);
+        B.due("papers", y.count(5), 5);
         B.due("last one to the first", x.cancel(0), -12);
         B.due("undone", x.undo(2), 0);
         B.due("1 to 0", x.owes(1, 0), 3);
@@ -286,6 +298,42 @@ public final class DeedTests {
         B.due("undone", x.undo(1), 0);
         B.due("whole", x.count(7), 0);
         B.due("stands", x.person(0, 0), 0);
+        undoEach();
+    }
+
+    /** Each call that does some is undone to what was right ahead of it. */
+    private static void undoEach() {
+        DebtBridge x = Bench.told("planks 2 bear 9;person;person;owes 0 to 1 of 3;owes 1 to 0 of 3;snowy 10;day 1;");
+        Bench.fill(x, 0, 0, 1);
+        Bench.fill(x, 1, 300);
+        int[][] sights = new int[10][];
+        for (int i = 0; i < 10; i++) {
+            sights[i] = sight(x);
+            switch (i) {
+                case 0: x.hand(0, 1); break;
+                case 1: x.mend(0); break;
+                case 2: x.days(3); break;
+                case 3: x.hand(1, 0); break;
+                case 4: x.perform(1); break;
+                case 5: x.cancel(0); break;
+                case 6: x.mend(1); break;
+                case 7: x.season(3, 9); break;
+                case 8: x.step(0, false); break;
+                default: x.season(7, 2); break;
+            }
+            B.due("done " + i, x.count(10), i + 1);
+        }
+        for (int i = 9; i >= 0; i--) {
+            B.due("undone", x.undo(1), i);
+            B.due("as ahead of " + i, java.util.Arrays.equals(sight(x), sights[i]) ? 1 : 0, 1);
+        }
+    }
+
+    private static int[] sight(DebtBridge x) {
+        int drawn = x.seed(0);
+        x.seed(drawn);
+        return new int[] {drawn, x.count(2), x.count(3), x.count(4), x.count(5), x.count(6), x.count(7), x.count(8), x.count(9),
+            x.person(0, 0), x.person(1, 0), x.plank(0, 0), x.plank(1, 0), x.owes(0, 1), x.owes(1, 0)};
     }
 
     private static void judge() {
@@ -322,6 +370,8 @@ public final class DeedTests {
         }
         Bench.fill(x, 2, 210);
         B.due("owes nothing", x.judge(2, 1), 2);
+        x.numbers(2, 0, 0);
+        B.due("no deeds, no why", x.judge(2, 1), 0);
         Bench.fill(x, 2, 102);
         B.due("the law", x.judge(2, 1), 3);
         x = Bench.told("planks 2 bear 9;person;person;owes 0 to 1 of 3;owes 1 to 0 of 3;");

@@ -64,6 +64,7 @@ public final class MendTests {
         B.due("no people", new DebtBridge().mendsAll(), 0);
         DebtBridge x = Bench.told("planks 2 bear 9;person;person;lets:who=0;");
         B.due("1 can't", x.mendsAll(), -1);
+        B.due("0 can't", Bench.told("planks 2 bear 9;person;person;lets:who=1;").mendsAll(), -1);
         x = Bench.told("planks 2 bear 9;person;person;person;weighs:who*10;");
         B.due("as the heaviest needs", x.mendsAll(), 4);
         x = Bench.told("planks 2 bear 8;person;person;weighs:999*who;");

@@ -57,20 +57,30 @@ public final class ModelTests {
         return random.nextInt(n + 1);
     }
 
+    /** At times an int far from all that can be, in place of another. */
+    private int orFar(int n) {
+        int[] far = {Integer.MIN_VALUE, Integer.MAX_VALUE, -100, 100, 357913941, 715827883, 1 << 30, -(1 << 30), 31, 32, 33};
+        return random.nextInt(60) == 0 ? far[upTo(far.length - 1)] : n;
+    }
+
     private int person() {
+        return orFar(somePerson());
+    }
+
+    private int somePerson() {
         return random.nextInt(25) == 0 ? upTo(9) - 2 : model.s.people > 0 ? upTo(model.s.people - 1) : upTo(1);
     }
 
     private int plank() {
-        return random.nextInt(25) == 0 ? upTo(10) - 1 : upTo(model.s.planks - 1);
+        return orFar(random.nextInt(25) == 0 ? upTo(10) - 1 : upTo(model.s.planks - 1));
     }
 
     private int tray() {
-        return random.nextInt(40) == 0 ? upTo(6) - 1 : upTo(3);
+        return orFar(random.nextInt(40) == 0 ? upTo(6) - 1 : upTo(3));
     }
 
     private int set() {
-        return random.nextInt(20) == 0 ? upTo(80) - 2 : 1 + upTo((1 << model.s.people) - 1);
+        return orFar(random.nextInt(20) == 0 ? upTo(80) - 2 : 1 + upTo((1 << model.s.people) - 1));
     }
 
     private boolean tell() {
@@ -86,7 +96,7 @@ public final class ModelTests {
             same = compare("feed", real.feed(five[0], five[1], five[2], five[3], five[4]), model.feed(five));
         }
         int n = model.tape.length() > text.length() + 20 ? model.tape.length() : text.length();
-        n = random.nextInt(30) == 0 ? upTo(950) - 10 : n;
+        n = orFar(random.nextInt(30) == 0 ? upTo(950) - 10 : n);
         return same && compare("bridge(" + n + ")", real.bridge(n), model.bridge(n))
             && compare("fault(0)", real.fault(0), model.fault(0))
             && compare("fault(1)", real.fault(1), model.fault(1));
@@ -95,7 +105,7 @@ public final class ModelTests {
     private boolean fill(int tray) {
         int kind = upTo(4);
         int sort = random.nextInt(30) == 0 ? upTo(5) - 1 : upTo(3);
-        int size = kind == 0 ? upTo(45) - 2 : kind == 1 ? model.s.people : kind == 2 ? upTo(6) : upTo(12);
+        int size = orFar(kind == 0 ? upTo(45) - 2 : kind == 1 ? model.s.people : kind == 2 ? upTo(6) : upTo(12));
         boolean same = compare("numbers(" + tray + ", " + sort + ", " + size + ")",
             real.numbers(tray, sort, size), model.numbers(tray, sort, size));
         if (kind == 1 && random.nextInt(3) > 0) {
@@ -157,18 +167,18 @@ public final class ModelTests {
         int q = person();
         int k = plank();
         int t = tray();
-        int n = upTo(12) - 1;
+        int n = orFar(upTo(12) - 1);
         switch (upTo(64)) {
             case 0: case 1: case 2:
                 return fill(t);
             case 3: {
-                int what = upTo(6) - 1;
+                int what = orFar(upTo(6) - 1);
                 return compare("person(" + p + ", " + what + ")", real.person(p, what), model.person(p, what));
             }
             case 4:
                 return compare("owes(" + p + ", " + q + ")", real.owes(p, q), model.owes(p, q));
             case 5: {
-                int what = upTo(5) - 1;
+                int what = orFar(upTo(5) - 1);
                 return compare("plank(" + k + ", " + what + ")", real.plank(k, what), model.plank(k, what));
             }
             case 6: {
@@ -188,20 +198,20 @@ public final class ModelTests {
             case 21: case 22:
                 return compare("mend(" + k + ")", real.mend(k), model.mend(k));
             case 23: case 24: {
-                int days = random.nextInt(10) == 0 ? upTo(102) - 1 : 1 + upTo(3);
+                int days = orFar(random.nextInt(10) == 0 ? upTo(102) - 1 : 1 + upTo(3));
                 return compare("days(" + days + ")", real.days(days), model.days(days));
             }
             case 25: case 26:
                 return compare("undo(" + n + ")", real.undo(n), model.undo(n));
             case 27: case 28: {
-                int what = upTo(7) == 0 ? upTo(5) - 1 : upTo(3);
+                int what = orFar(upTo(7) == 0 ? upTo(5) - 1 : upTo(3));
                 return compare("judge(" + t + ", " + what + ")", real.judge(t, what), model.judge(t, what));
             }
             case 29:
                 return compare("perform(" + t + ")", real.perform(t), model.perform(t));
             case 30: case 31: {
                 int seed = random.nextInt();
-                int times = random.nextInt(8) == 0 ? upTo(42) : 1 + upTo(5);
+                int times = orFar(random.nextInt(8) == 0 ? upTo(42) : 1 + upTo(5));
                 return compare("season(" + seed + ", " + times + ")", real.season(seed, times), model.season(seed, times));
             }
             default:
@@ -225,7 +235,7 @@ public final class ModelTests {
     }
 
     private boolean ask(int p, int q, int k, int t, int n) {
-        int what = upTo(10) == 0 ? upTo(4) - 1 : upTo(1);
+        int what = orFar(upTo(10) == 0 ? upTo(4) - 1 : upTo(1));
         switch (upTo(30)) {
             case 0:
                 return compare("alone(" + p + ")", real.alone(p), model.alone(p));
@@ -237,7 +247,7 @@ public final class ModelTests {
                 return compare("row(" + t + ")", real.row(t), model.row(t));
             case 5: {
                 int set = set();
-                int i = upTo(7) - 1;
+                int i = orFar(upTo(7) - 1);
                 return compare("order(" + set + ", " + i + ")", real.order(set, i), model.order(set, i));
             }
             case 6: {
@@ -255,7 +265,7 @@ public final class ModelTests {
             case 12:
                 return compare("rings()", real.rings(), model.rings());
             case 13: case 14: {
-                int which = upTo(5) == 0 ? upTo(18) - 1 : upTo(1) == 0 ? upTo(1) : 10 + upTo(5);
+                int which = orFar(upTo(5) == 0 ? upTo(18) - 1 : upTo(1) == 0 ? upTo(1) : 10 + upTo(5));
                 return compare("ring(" + which + ")", real.ring(which), model.ring(which));
             }
             case 15:
@@ -271,28 +281,28 @@ public final class ModelTests {
             case 20:
                 return compare("torn(" + t + ")", real.torn(t), model.torn(t));
             case 21: {
-                int i = upTo(6) - 1;
+                int i = orFar(upTo(6) - 1);
                 return compare("tornAt(" + t + ", " + i + ")", real.tornAt(t, i), model.tornAt(t, i));
             }
             case 22:
                 return compare("weighed(" + t + ")", real.weighed(t), model.weighed(t));
             case 23: {
-                int days = upTo(17) - 1;
+                int days = orFar(upTo(17) - 1);
                 return compare("chance(" + p + ", " + days + ", " + what + ")", real.chance(p, days, what),
                     model.chance(p, days, what));
             }
             case 24: {
-                int m = upTo(103) - 1;
+                int m = orFar(upTo(103) - 1);
                 return compare("likely(" + p + ", " + m + ")", real.likely(p, m), model.likely(p, m));
             }
             case 25:
                 return compare("lists(" + t + ")", real.lists(t), model.lists(t));
             case 26: {
-                int i = upTo(8) == 0 ? upTo(4) - 1 : upTo(1);
+                int i = orFar(upTo(8) == 0 ? upTo(4) - 1 : upTo(1));
                 return compare("image(" + i + ")", real.image(i), model.image(i));
             }
             case 27: {
-                int i = upTo(8) == 0 ? upTo(4) - 1 : upTo(1);
+                int i = orFar(upTo(8) == 0 ? upTo(4) - 1 : upTo(1));
                 return upTo(2) > 0 || compare("restore(" + i + ")", real.restore(i), model.restore(i));
             }
             case 28: {
@@ -300,7 +310,7 @@ public final class ModelTests {
                 return compare("write(" + t + ", " + n + ", " + v + ")", real.write(t, n, v), model.write(t, n, v));
             }
             default: {
-                int which = upTo(14) - 1;
+                int which = orFar(upTo(14) - 1);
                 return compare("count(" + which + ")", real.count(which), model.count(which));
             }
         }

@@ -112,6 +112,10 @@ public final class OverTests {
         B.due("six over one plank", rowOf(x, 5, 4, 3, 2, 1, 0), -1);
         x = Bench.told("planks 2 bear 9;person;person;person;person;person;person;weighs:6;");
         B.due("six of 6 over two planks: 6 + 3", rowOf(x, 5, 4, 3, 2, 1, 0), -1);
+        x = Bench.told("planks 3 bear 9;person;person;owes 0 to 1 of 10;");
+        x.tear(0, 1);
+        x.undo(1);
+        B.due("what it weighs now", rowOf(x, 0), 0);
         x = Bench.told("planks 3 bear 9;person;person;person;weighs:6;");
         B.due("two of 6 over three", rowOf(x, 2, 0), -1);
         B.due("three of 6: 6 + 6", rowOf(x, 2, 1, 0), 1);
@@ -157,6 +161,20 @@ public final class OverTests {
         x = Bench.told("planks 8 bear 9;person;person;person;person;person;person;");
         B.due("all of six", x.orders(63), 720);
         B.due("the first", x.order(63, 5), 5);
+        x = Bench.told("planks 1 bear 9;person;person;weighs:9;");
+        B.due("one plank: nobody beside", x.orders(3), 2);
+        x = Bench.told("planks 2 bear 9;plank 0 bears 6;person;person;weighs:6-3*who;");
+        B.due("plank 0 bears 6 alone, 3 behind 6", x.orders(3), 1);
+        B.due("0 first", x.order(3, 0), 0);
+        x = Bench.told("planks 2 bear 9;plank 1 bears 6;person;person;weighs:3+3*who;");
+        B.due("plank 1 bears 6 alone, 3 ahead of 6", x.orders(3), 1);
+        B.due("0 first", x.order(3, 0), 0);
+        x = Bench.told("planks 3 bear 9;plank 0 bears 5;person;weighs:6;");
+        B.due("plank 0 doesn't bear it", x.orders(1), 0);
+        x = Bench.told("planks 3 bear 9;person;person;owes 0 to 1 of 10;");
+        x.tear(0, 1);
+        x.undo(1);
+        B.due("what it weighs now", x.orders(1), 0);
         x = Bench.told("planks 8 bear 9;person;person at 4;person;weighs:who*20;");
         B.due("broken", x.count(7) != 0 ? x.orders(1) : -9, 0);
     }

@@ -72,6 +72,8 @@ public final class TrayTests {
         B.due("all", x.lists(0), 3);
         x.undo(1);
         B.due("that was torn", x.tornAt(0, 0), 1);
+        B.due("what they weigh, undone", x.lists(0), 3);
+        B.due("none torn", x.torn(0), 0);
         B.due("empty", x.numbers(1, 0, 0), 0);
         B.due("no places", x.lists(1), 0);
         Bench.fill(x, 1, 7, 7);
