@@ -195,7 +195,7 @@ public final class DebtBridge {
 
     public int tear(int p, int q) {
         past.mark(live.state);
-        int amount = live.isPerson(p) && live.isPerson(q) ? live.owing(p, q) : 0;
+        int amount = live.owing(p, q);
         int why = deeds.tearPaper(p, q);
         return ended(why) ? amount : WHY_NOT - why;
     }
@@ -1216,12 +1216,16 @@ public final class DebtBridge {
             return (state.broken >> k & 1) != 0;
         }
 
+        /** What one owes another one; nothing, if there is no such paper, or person. */
         int owing(int p, int q) {
-            return state.debt[p * MOST_PEOPLE + q];
+            boolean there = p >= 0 && p < MOST_PEOPLE && q >= 0 && q < MOST_PEOPLE;
+            return there ? state.debt[p * MOST_PEOPLE + q] : 0;
         }
 
         void setOwing(int p, int q, int amount) {
-            state.debt[p * MOST_PEOPLE + q] = amount;
+            if (p >= 0 && p < MOST_PEOPLE && q >= 0 && q < MOST_PEOPLE) {
+                state.debt[p * MOST_PEOPLE + q] = amount;
+            }
         }
 
         int debtOf(int p) {
@@ -1298,7 +1302,7 @@ public final class DebtBridge {
         }
 
         int bearing(int k) {
-            return plan.bears[k] + 10 * state.mended[k];
+            return k >= 0 && k < MOST_PLANKS ? plan.bears[k] + 10 * state.mended[k] : 0;
         }
 
         void breakPlanks() {
