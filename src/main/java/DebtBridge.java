@@ -176,8 +176,10 @@ public final class DebtBridge {
     // ---- deeds
 
     public int seed(int n) {
+        past.mark(live.state);
         int before = live.state.x;
         live.state.x = n;
+        past.keep();
         return before;
     }
 

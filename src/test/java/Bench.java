@@ -49,6 +49,13 @@ final class Bench {
         return x;
     }
 
+    /** The x of an object, which stays (as long as fewer than ten calls can be undone). */
+    static int drawn(DebtBridge x) {
+        int drawn = x.seed(0);
+        x.undo(1);
+        return drawn;
+    }
+
     /** A tray of 64 bits with these numbers. */
     static void fill(DebtBridge x, int tray, long... numbers) {
         x.numbers(tray, 3, numbers.length);

@@ -97,11 +97,11 @@ public final class BridgeTests {
         B.due("people", x.count(1), 2);
         B.due("day", x.count(8), 4);
         B.due("snow", x.count(9), 1);
-        B.due("undoable", x.count(10), 2);
+        B.due("undoable", x.count(10), 3);
         B.due("lines", x.count(12), 6);
         B.due("tape", x.count(11), 0);
         B.due("place", x.person(0, 0), 1);
-        B.due("x", x.seed(drawn), drawn);
+        B.due("x", Bench.drawn(x), drawn);
         B.due("another one", Bench.tell(x, "planks 3 bear 5;person;day 8;"), 3);
         B.due("planks", x.count(0), 3);
         B.due("people", x.count(1), 1);

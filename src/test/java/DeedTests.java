@@ -24,9 +24,38 @@ public final class DeedTests {
         B.due("seed", x.seed(5), 0);
         B.due("seed", x.seed(-7), 5);
         B.due("seed", x.seed(0), -7);
-        B.due("no deed", x.count(10), 0);
+        B.due("three deeds", x.count(10), 3);
         x.days(1);
         B.due("drawn once", x.seed(0), 12345);
+        seedUndone();
+    }
+
+    /** A seed is a deed like others, even if x is the same then, and is undone by itself. */
+    private static void seedUndone() {
+        DebtBridge x = new DebtBridge();
+        x.seed(0);
+        B.due("x as it was: a deed", x.count(10), 1);
+        x.seed(0);
+        B.due("one is left", x.undo(1), 1);
+        B.due("none is left", x.undo(1), 0);
+        x.seed(5);
+        x.days(1);
+        int drawn = 1103515245 * 5 + 12345;
+        x.seed(9);
+        B.due("the seed alone", x.undo(1), 2);
+        B.due("x ahead of it", Bench.drawn(x), drawn);
+        B.due("the day stays", x.count(8), 1);
+        B.due("the day", x.undo(1), 1);
+        B.due("x ahead of the day", Bench.drawn(x), 5);
+        B.due("the first seed", x.undo(1), 0);
+        B.due("x at first", Bench.drawn(x), 0);
+        B.due("no more", x.undo(1), -3);
+        for (int i = 1; i <= 12; i++) {
+            x.seed(i);
+        }
+        B.due("ten at most", x.count(10), 10);
+        B.due("ten", x.undo(10), 0);
+        B.due("the eldest are forgotten", Bench.drawn(x), 2);
     }
 
     private static void step() {
@@ -268,22 +297,24 @@ public final class DeedTests {
         x.tear(0, 1);
         x.step(5, true);
         x.alone(0);
-        B.due("four", x.count(10), 4);
+        B.due("five", x.count(10), 5);
         B.due("0", x.undo(0), -3);
         B.due("-1", x.undo(-1), -3);
-        B.due("5", x.undo(5), -3);
+        B.due("6", x.undo(6), -3);
         B.due("11", x.undo(11), -3);
-        B.due("one", x.undo(1), 3);
+        B.due("one", x.undo(1), 4);
         B.due("owes", x.owes(0, 1), 3);
         B.due("mended", x.plank(1, 3), 1);
-        B.due("two", x.undo(2), 1);
+        B.due("two", x.undo(2), 2);
         B.due("mended", x.plank(1, 3), 0);
         B.due("place", x.person(0, 0), 0);
         B.due("snow", x.count(9), 1);
-        B.due("last", x.undo(1), 0);
+        B.due("the day", x.undo(1), 1);
         B.due("snow", x.count(9), 0);
         B.due("day", x.count(8), 1);
-        B.due("x", x.seed(0), 77);
+        B.due("x", Bench.drawn(x), 77);
+        B.due("the seed", x.undo(1), 0);
+        B.due("x", Bench.drawn(x), 0);
         for (int i = 0; i < 14; i++) {
             x.step(0, i % 2 == 0);
         }
@@ -330,9 +361,7 @@ public final class DeedTests {
     }
 
     private static int[] sight(DebtBridge x) {
-        int drawn = x.seed(0);
-        x.seed(drawn);
-        return new int[] {drawn, x.count(2), x.count(3), x.count(4), x.count(5), x.count(6), x.count(7), x.count(8), x.count(9),
+        return new int[] {Bench.drawn(x), x.count(2), x.count(3), x.count(4), x.count(5), x.count(6), x.count(7), x.count(8), x.count(9),
             x.person(0, 0), x.person(1, 0), x.plank(0, 0), x.plank(1, 0), x.owes(0, 1), x.owes(1, 0)};
     }
 
@@ -360,7 +389,7 @@ public final class DeedTests {
         Bench.fill(x, 1, 1, 11, 11);
         B.due("back and back", x.judge(1, 0), 2);
         B.due("why", x.judge(1, 1), 2);
-        B.due("x stays", x.seed(0), 0);
+        B.due("x stays", Bench.drawn(x), 0);
         B.due("day stays", x.count(8), 0);
         for (long v : new long[] {-2, 3, 9, 13, 19, 20, 99, 103, 111, 130, 200, 203, 230, 302, 309, 310, 400,
             4294967296L, Long.MAX_VALUE, Long.MIN_VALUE, -4294967297L}) {
@@ -412,7 +441,7 @@ public final class DeedTests {
         B.due("undone as a whole", x.undo(1), 0);
         B.due("place", x.person(0, 0), 0);
         B.due("day", x.count(8), 0);
-        B.due("x", x.seed(0), 0);
+        B.due("x", Bench.drawn(x), 0);
         B.due("papers", x.count(5), 1);
         Bench.fill(x, 0, 101, 101, 101);
         B.due("hand in hand", x.perform(0), 3);
@@ -430,7 +459,7 @@ public final class DeedTests {
         B.due("one", x.season(3, 1), 1);
         B.due("3 steps", x.person(3, 0), 1);
         B.due("undone", x.undo(1), 0);
-        B.due("x", x.seed(0), 0);
+        B.due("x", Bench.drawn(x), 0);
         B.due("four", x.season(3, 4), 4);
         B.due("3 twice", x.person(3, 0), 2);
         B.due("4 twice", x.person(4, 0), 2);
@@ -441,8 +470,8 @@ public final class DeedTests {
         // from 4 on: 5 0 5: a paper that isn't; it can't be: nothing changes
         x.seed(88);
         B.due("none", x.season(4, 1), 0);
-        B.due("x stays", x.seed(0), 88);
-        B.due("nothing to be undone", x.count(10), 0);
+        B.due("x stays", Bench.drawn(x), 88);
+        B.due("nothing to be undone but the seed", x.count(10), 1);
         // from 7 on: 0 and a draw (6 modulo 10) for the snow, then 2 0: PERSON 0 steps
         B.due("a day, a step", x.season(7, 2), 2);
         B.due("day", x.count(8), 1);
@@ -452,7 +481,7 @@ public final class DeedTests {
         for (int i = 0; i < 4; i++) {
             drawn = 1103515245 * drawn + 12345;
         }
-        B.due("x", x.seed(0), drawn);
+        B.due("x", Bench.drawn(x), drawn);
         x = Bench.told("planks 2 bear 9;person;person;person;person;person;person;owes 0 to 5 of 4;");
         B.due("0 to 5 is torn", x.season(4, 1), 1);
         B.due("papers", x.count(5), 0);

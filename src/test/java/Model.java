@@ -645,6 +645,7 @@ final class Model {
     }
 
     int seed(int n) {
+        keep(s.twin());
         int was = s.x;
         s.x = n;
         return was;

@@ -150,7 +150,7 @@ public final class TrayTests {
         B.due("nothing can be undone", x.count(10), 0);
         B.due("the tape stays", x.count(11), 20);
         B.due("lines", x.count(12), 11);
-        B.due("x", x.seed(0), 321);
+        B.due("x", Bench.drawn(x), 321);
         B.due("mended", x.plank(0, 0), 29);
         B.due("weighs", x.person(0, 4), 0);
         B.due("weighs", x.person(1, 4), 8);
