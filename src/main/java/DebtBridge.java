@@ -26,6 +26,7 @@ public final class DebtBridge {
     private static final int MOST_BETWEEN = 8;
     private static final int MOST_NESTED = 6;
     private static final int MOST_WEIGHT = 9999;
+    private static final int MOST_OWED = 99;
     private static final int LAW_LIMIT = 1000000;
     private static final int TRAYS = 4;
     private static final int IMAGES = 2;
@@ -872,7 +873,7 @@ public final class DebtBridge {
             if (whom == NONE || !takeWord("of")) {
                 return false;
             }
-            int amount = takeNumber(1, 99);
+            int amount = takeNumber(1, MOST_OWED);
             if (amount == NONE) {
                 return false;
             }
@@ -1825,7 +1826,7 @@ public final class DebtBridge {
             bestDebt = 0;
             for (int p = 0; p < world.plan.people; p++) {
                 path[0] = p;
-                follow(1, 1 << p, Integer.MAX_VALUE);
+                follow(1, 1 << p, MOST_OWED);
             }
         }
 

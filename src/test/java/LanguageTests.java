@@ -5,6 +5,7 @@ import com.sun.source.tree.CompilationUnitTree;
 import com.sun.source.tree.ImportTree;
 import com.sun.source.tree.LambdaExpressionTree;
 import com.sun.source.tree.MemberReferenceTree;
+import com.sun.source.tree.MemberSelectTree;
 import com.sun.source.tree.MethodInvocationTree;
 import com.sun.source.tree.MethodTree;
 import com.sun.source.tree.NewClassTree;
@@ -185,6 +186,18 @@ public final class LanguageTests extends TreePathScanner<Void, Void> {
             }
         }
         return super.visitMethodInvocation(tree, v);
+    }
+
+    @Override
+    public Void visitMemberSelect(MemberSelectTree tree, Void v) {
+        Element named = trees.getElement(getCurrentPath());
+        if (named != null && named.getKind() == ElementKind.FIELD && named.getEnclosingElement() != null) {
+            boolean own = named.getEnclosingElement().toString().startsWith("DebtBridge");
+            // the length of an array is a field of a class that has no package
+            boolean length = named.getEnclosingElement().toString().equals("Array");
+            rule(4, "no field of the library: " + tree, own || length);
+        }
+        return super.visitMemberSelect(tree, v);
     }
 
     @Override
