@@ -97,6 +97,15 @@ final class BridgeEdges {
         e.due("a broken one", x.plank(0, 2), 1);
         x = Bench.told("planks 2 bear 9;plank 0 bears 2;person at 2;weighs:6;");
         e.due("a broken one has a load, too", x.plank(0, 2) * 10 + x.plank(0, 1), 13);
+        DebtBridge y = Bench.told("planks 2 bear 9;person at 1;person;owes 0 to 1 of 5;");
+        y.image(0);
+        y.tear(0, 1);
+        e.due("its load, torn", y.plank(0, 1), 0);
+        y.undo(1);
+        e.due("its load, undone", y.plank(0, 1), 5);
+        y.tear(0, 1);
+        y.restore(0);
+        e.due("its load, restored", y.plank(0, 1), 5);
         e.says(7, "-2.");
         for (int k : new int[] {-1, 2, 8, LOW, HIGH}) {
             e.due("plank " + k, x.plank(k, 0), -2);
@@ -254,6 +263,8 @@ final class BridgeEdges {
         // plank 0 under half of 2, then 1 under 2, and nobody is beside 2 then; likewise 5 and 6
         e.due("one ahead of it first", x.count(7), 1 + 2 + 32 + 64);
         e.due("both fall", x.count(2), 3);
+        x = Bench.told("planks 8 bear 0;person at 2;person at 3;person at 5;person at 6;person at 8;weighs:2;");
+        e.due("all eight", x.count(7), 255);
     }
 
     private void fallen() {
@@ -286,9 +297,18 @@ final class BridgeEdges {
         x = Bench.told("planks 8 bear 99;person;person;weighs:40+who;day 8;lets:who=1 and day=1 and snow=0 and weight=41 and plank<7;");
         e.due("0 is another", x.alone(0), 0);
         e.due("1 till the last plank", x.alone(1), 7);
-        x = Bench.told("planks 2 bear 99;person;lets:plank=0 or plank=2;");
-        e.due("numbered from 0 on", x.step(0, true), 1);
-        e.due("the last is 1", x.step(0, true), -13);
+        for (int k = 0; k < 3; k++) {
+            x = Bench.told("planks 3 bear 99;person;person;lets:plank<" + k + ";");
+            for (int at = 0; at < k; at++) {
+                e.due("a step below " + k, x.step(0, true), at + 1);
+            }
+            e.due("a step to " + k, x.step(0, true), -13);
+            x = Bench.told("planks 3 bear 99;person at 4;person;lets:plank>" + k + ";");
+            for (int at = 2; at > k; at--) {
+                e.due("back above " + k, x.step(0, false), at + 1);
+            }
+            e.due("back to " + k, x.step(0, false), -13);
+        }
         x = Bench.told("planks 1 bear 0;person;weighs:909*12;lets:weight=909*11;");
         e.due("what it weighs, 9,999 at most", x.alone(0), 0);
         e.due("so it may, and breaks it", x.step(0, true), -1);

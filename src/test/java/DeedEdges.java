@@ -38,6 +38,15 @@ final class DeedEdges {
             e.due("seed(" + n + ")", x.seed(n), was);
             was = n;
         }
+        x = Bench.told("planks 2 bear 9;person;person;owes 0 to 1 of 5;");
+        x.seed(5);
+        x.step(0, true);
+        x.seed(9);
+        e.due("undone by itself", x.undo(1), 2);
+        e.due("x as it was", x.seed(7), 5);
+        e.due("its place and debts stay", x.person(0, 0) * 10 + x.owes(0, 1), 15);
+        x.undo(3);
+        e.due("the first one, too", x.seed(1), 0);
     }
 
     private void step() {
@@ -393,6 +402,42 @@ final class DeedEdges {
         e.due("undone", x.undo(4), 0);
         e.holds("as it was", Sight.ofState(x).equals(before));
         e.due("x", Bench.drawn(x), 0);
+        undoneEach();
+    }
+
+    /** Each call by itself, behind others, is undone to what was right ahead of it. */
+    private void undoneEach() {
+        for (int which = 0; which < 10; which++) {
+            DebtBridge x = Bench.told("planks 2 bear 19;person;person;person at 1;owes 0 to 1 of 3;owes 1 to 0 of 3;owes 2 to 0 of 4;"
+                + "snowy 5;day 1;");
+            Bench.fill(x, 0, 0, 1);
+            Bench.fill(x, 1, 301);
+            x.mend(0);
+            x.days(1);
+            x.tear(2, 0);
+            String before = Sight.ofState(x);
+            int drawn = Bench.drawn(x);
+            did(x, which);
+            e.due("done: " + which, x.count(10), 4);
+            e.due("undone: " + which, x.undo(1), 3);
+            e.holds("as ahead of " + which, Sight.ofState(x).equals(before));
+            e.due("x as ahead of " + which, Bench.drawn(x), drawn);
+        }
+    }
+
+    private static void did(DebtBridge x, int which) {
+        switch (which) {
+            case 0: x.seed(99); break;
+            case 1: x.step(2, true); break;
+            case 2: x.step(2, false); break;
+            case 3: x.hand(0, 1); break;
+            case 4: x.tear(0, 1); break;
+            case 5: x.cancel(0); break;
+            case 6: x.mend(1); break;
+            case 7: x.days(2); break;
+            case 8: x.perform(1); break;
+            default: x.season(3, 30); break;
+        }
     }
 
     private void whyNot() {
@@ -424,6 +469,11 @@ final class DeedEdges {
         x.mend(0);
         e.due("only the fallen one owes it", x.step(0, true), 1);
         e.due("one way alone", x.owes(0, 1) * 10 + x.owes(1, 0), 30);
+        x = Bench.told("planks 2 bear 50;person;person;owes 0 to 1 of 3;");
+        e.due("it owes, but isn't owed", x.step(0, true), 1);
+        e.due("it is owed, but doesn't owe", x.step(1, true), 1);
+        x = Bench.told("planks 2 bear 50;person;person;owes 0 to 1 of 1;owes 1 to 0 of 1;");
+        e.due("of 1 each", x.step(0, true), -14);
         x = Bench.told("planks 2 bear 50;person;person at 3;person;owes 0 to 1 of 3;owes 1 to 0 of 3;");
         e.due("wherever the other one is", x.step(0, true), -14);
         e.due("of another two", x.step(2, true), 1);

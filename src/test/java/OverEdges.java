@@ -147,6 +147,8 @@ final class OverEdges {
         e.due("today", rowOf(x, 0), -1);
         x.days(1);
         e.due("tomorrow", rowOf(x, 0), 0);
+        x.undo(1);
+        e.due("undone: today", rowOf(x, 0), -1);
         e.says(TERMS, "no PLANK that isn't BROKEN has a LOAD above what it BEARS, nobody comes to one that is.");
         x = Bench.told("planks 2 bear 9;person;person;weighs:9-who*9;");
         e.due("as much as it bears", rowOf(x, 0, 1), -1);
@@ -248,12 +250,44 @@ final class OverEdges {
         e.due("none: 3 + 1", x.orders(6), 0);
         x = Bench.told("planks 3 bear 9;person;person;person at 2;weighs:who*5;");
         e.due("a broken plank", x.orders(1), 0);
+        x = Bench.told("planks 2 bear 9;person;person;owes 0 to 1 of 10;");
+        x.tear(0, 1);
+        x.undo(1);
+        e.due("by what it weighs now, undone", x.orders(1), 0);
+        rowByRow();
         e.says(24, "-3.");
         e.due("empty", x.orders(0), -3);
         for (int set : new int[] {8, 9, 15, 64, -1, LOW, HIGH, 1 << 30}) {
             e.due("others: " + set, x.orders(set), -3);
         }
         e.due("nobody is told", new DebtBridge().orders(1), -3);
+    }
+
+    /** As many as row() lets over, and order() tells the first of these. */
+    private void rowByRow() {
+        int[][] bears = {{9}, {8, 9}, {9, 8}, {7, 9, 8}, {9, 7, 9}, {8, 8, 8}, {6, 9, 9}, {9, 9, 6}, {9, 6, 8, 9}, {7, 9, 9, 7}};
+        String[] laws = {"6-who", "3+who", "4+who*who-who*2", "7-who*2", "5", "6-3*who", "2+who*2", "1+who*3"};
+        for (int[] planks : bears) {
+            for (String law : laws) {
+                StringBuilder text = new StringBuilder("planks " + planks.length + " bear 9;person;person;person;weighs:" + law + ";");
+                for (int k = 0; k < planks.length; k++) {
+                    text.append("plank ").append(k).append(" bears ").append(planks[k]).append(";");
+                }
+                DebtBridge x = Bench.told(text.toString());
+                int[][] all = {{0, 1, 2}, {0, 2, 1}, {1, 0, 2}, {1, 2, 0}, {2, 0, 1}, {2, 1, 0}};
+                int many = 0;
+                int first = -1;
+                for (int i = 5; i >= 0; i--) {
+                    if (rowOf(x, all[i][0], all[i][1], all[i][2]) == -1) {
+                        many++;
+                        first = all[i][0] * 100 + all[i][1] * 10 + all[i][2];
+                    }
+                }
+                e.due("orders of " + text, x.orders(7), many);
+                e.due("order of " + text, many == 0 ? x.order(7, 0) : x.order(7, 0) * 100 + x.order(7, 1) * 10 + x.order(7, 2), first);
+                e.due("two of " + text, x.orders(3), (rowOf(x, 0, 1) == -1 ? 1 : 0) + (rowOf(x, 1, 0) == -1 ? 1 : 0));
+            }
+        }
     }
 
     private void apart() {

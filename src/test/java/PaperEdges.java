@@ -48,6 +48,10 @@ final class PaperEdges {
         e.due("tomorrow it snows", tornBy(x, 1, 1), 1);
         x = Bench.told("planks 1 bear 9;person at 1;person;owes 0 to 1 of 5;weighs:12-debt;");
         e.due("torn, it would fall: it weighs as it does", tornBy(x, 12, 12), 1);
+        x = Bench.told("planks 1 bear 9;person;person;owes 0 to 1 of 1;owes 1 to 0 of 99;");
+        e.due("one of 1", tornBy(x, 0, 99), 1);
+        e.due("one of 99", tornBy(x, 1, 0), 1);
+        e.due("both", tornBy(x, -1, -1), 2);
     }
 
     private void torn() {
@@ -132,7 +136,16 @@ final class PaperEdges {
         Bench.fill(x, 2, -1, -1, -1);
         // 2 weighs otherwise by each paper: 32 17 23 24
         e.due("the last one tells all", x.weighed(2), 2);
+        x = Bench.told("planks 1 bear 9;person;person;person;person;owes 0 to 1 of 1;owes 0 to 2 of 2;owes 0 to 3 of 3;owes 3 to 0 of 4;");
+        Bench.fill(x, 2, -1, -1, -1, -1);
+        // 0 weighs 5 4 3 6, 3 weighs 4 4 4 0
+        e.due("the first tells all", x.weighed(2), 0);
+        x = Bench.told("planks 1 bear 9;person;person;person;person;owes 3 to 0 of 1;owes 3 to 1 of 1;owes 2 to 0 of 1;owes 2 to 1 of 2;owes 2 to 3 of 2;");
+        Bench.fill(x, 2, -1, -1, -1, -1);
+        // by 20 21 23 30 31: 2 weighs 4 3 3 5 5, 3 weighs 2 2 2 1 1
+        e.due("two alike at most ahead of three", x.weighed(2), 2);
         e.says(38, "NONE: there are none; else as torn().");
+        x = Bench.told(THREE);
         Bench.fill(x, 2, 9999, -1, -1);
         e.due("none fits", x.weighed(2), -1);
         x = Bench.told("planks 1 bear 1;person;");
@@ -177,6 +190,17 @@ final class PaperEdges {
         chanceIs(x, 1, 1, 1);
         x = Bench.told("planks 1 bear 5;person;weighs:9-snow*5;snowy 0;");
         chanceIs(x, 15, 0, 1);
+        x = Bench.told("planks 1 bear 5;person;lets:snow=1;snowy 2;");
+        chanceIs(x, 1, 1, 5);
+        x = Bench.told("planks 1 bear 5;person;lets:snow=0;snowy 2;");
+        chanceIs(x, 1, 4, 5);
+        x = Bench.told("planks 1 bear 5;person;person;person;weighs:who*9;lets:who<1 or snow=1 and who=1;snowy 2;");
+        e.due("of another one", x.chance(1, 1, 0), 0);
+        e.due("of the first one", x.chance(0, 1, 0), 1);
+        x = Bench.told("planks 1 bear 5;person;person;weighs:9-who*9;");
+        e.due("of the second one", x.chance(1, 1, 0), 1);
+        e.due("of the second one, likely", x.likely(1, 100), 1);
+        e.due("of the first one", x.chance(0, 1, 0), 0);
         x = Bench.told("planks 1 bear 5;person;weighs:9-snow*5;");
         chanceIs(x, 15, 0, 1);
     }

@@ -140,6 +140,11 @@ final class TextEdges {
         e.due("nothing", x.count(10), 0);
         e.due("undo", x.undo(1), -3);
         e.due("x", x.seed(3), 0);
+        x = Bench.told(TWO + "person at 1;weighs:6;");
+        x.mend(1);
+        Bench.tell(x, TWO);
+        e.due("planks told anew are whole", x.count(7), 0);
+        e.due("and were not mended", x.plank(1, 3) * 100 + x.plank(1, 0), 5);
         e.says(3, "how many LINES (planks, too;");
         good(TWO, 1);
         good(TWO + "day 1;", 2);
@@ -266,12 +271,38 @@ final class TextEdges {
         bad(ONE + "snowy:3;", 2, 21);
         bad(ONE + "day;", 2, 19);
         bad(ONE + "at 1;", 2, 16);
+        bad("planks 1 1;", 2, 9);
+        bad(ONE + "plank 0 3;", 2, 24);
+        bad(ONE + "person;person;owes 0 1 of 1;", 2, 37);
+        bad(ONE + "person;person;owes 0 to 1 1;", 2, 42);
+        wordsLetterByLetter();
         e.says(TERMS, "FLAG: at N.");
         good(ONE + "person;", 2);
         good(ONE + "person at 1;", 2);
         good(ONE + "person at 1 at 0 at 2;", 2);
         bad(ONE + "person at;", 2, 25);
         bad(ONE + "person 1;", 2, 23);
+    }
+
+    /** Every letter of every word of a text counts. */
+    private void wordsLetterByLetter() {
+        String text = "planks 2 bear 5;plank 1 bears 6;person at 1;person;owes 0 to 1 of 2;weighs:who+day+snow+debt+papers+owed;"
+            + "lets:not plank=weight and others=0 or 1=1;snowy 1;day 1;";
+        good(text, 9);
+        int start = 0;
+        for (int i = 0; i < text.length(); i++) {
+            boolean letter = text.charAt(i) >= 'a' && text.charAt(i) <= 'z';
+            if (!letter) {
+                start = i + 1;
+            } else {
+                boolean last = text.charAt(i + 1) < 'a';
+                int place = start;
+                bad(text.substring(0, i) + "j" + text.substring(i + 1), 2, place);
+                if (last) {
+                    bad(text.substring(0, i + 1) + "j" + text.substring(i + 1), 2, place);
+                }
+            }
+        }
     }
 
     private int weight(String law) {
@@ -305,6 +336,14 @@ final class TextEdges {
         truth("3>2", true);
         truth("2>2", false);
         truth("1>2", false);
+        for (String one : new String[] {"2=2", "1<2", "2>1"}) {
+            for (String other : new String[] {"2=2", "1<2", "2>1"}) {
+                truth(one + " and " + other, true);
+                truth("not " + one + " or not " + other, false);
+                truth("not[" + one + " and " + other + "]", false);
+                truth("not[" + one + " or not " + other + "]", false);
+            }
+        }
         bad(ONE + "lets:1=1=1;", 2, 24);
         bad(ONE + "lets:1<=1;", 2, 23);
         bad(ONE + "lets:[1=1;", 2, 25);

@@ -122,6 +122,8 @@ final class TrayDeedEdges {
         Bench.fill(x, 0, 0, 0, 0, 20);
         e.due("the first that can't be", x.judge(0, 0), 2);
         e.due("its why", x.judge(0, 1), 2);
+        Bench.fill(x, 0);
+        e.due("no deeds behind one that can't be: why", x.judge(0, 1), 0);
         long[] most = new long[40];
         java.util.Arrays.fill(most, -1);
         Bench.fill(x, 0, most);
@@ -169,6 +171,10 @@ final class TrayDeedEdges {
         e.due("the fifth isn't done", x.person(1, 0), 0);
         e.due("one call", x.count(10), 1);
         e.due("undone as a whole", x.undo(1) + x.count(8) + x.person(0, 0), 0);
+        Bench.fill(x, 0, -1, 99);
+        e.due("one alone", x.perform(0), 1);
+        e.due("one call", x.count(10), 1);
+        e.due("undone", x.undo(1) + x.count(8), 0);
         x.numbers(0, 3, 40);
         for (int i = 0; i < 40; i++) {
             x.write(0, i, i % 2 == 0 ? 0 : 10);

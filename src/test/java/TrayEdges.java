@@ -139,6 +139,13 @@ final class TrayEdges {
         x = Bench.told("planks 1 bear 2;");
         x.numbers(0, 0, 3);
         e.due("no people", x.lists(0), 0);
+        x = Bench.told("planks 2 bear 9;person;person;owes 0 to 1 of 11;owes 1 to 0 of 5;");
+        x.numbers(0, 0, 2);
+        x.tear(0, 1);
+        x.undo(1);
+        x.lists(0);
+        e.due("undone: 11 and 5, and by no torn paper", x.torn(0), 0);
+        e.due("11: 1 can't step west; 5 is nobody", x.judge(0, 1), 2);
         x = Bench.told("planks 1 bear 2;person at 1;weighs:300;");
         x.numbers(0, 1, 1);
         e.due("the fallen, too", x.lists(0) * 10 + x.count(2), 11);
