@@ -76,6 +76,9 @@ final class DebtEdges {
             Bench.told(SIX + "owes 0 to 3 of 1;owes 0 to 5 of 2;owes 1 to 4 of 2;owes 1 to 5 of 3;owes 2 to 5 of 7;").settles(), 4);
         e.due("a pair and a group of four: -9 9, -1 -2 -4 7",
             Bench.told(SIX + "owes 0 to 1 of 9;owes 2 to 5 of 1;owes 3 to 5 of 2;owes 4 to 5 of 4;").settles(), 4);
+        e.due("-2 1 1", Bench.told(SIX + "owes 0 to 1 of 1;owes 0 to 2 of 1;").settles(), 2);
+        e.due("-1 -1 2", Bench.told(SIX + "owes 0 to 2 of 1;owes 1 to 2 of 1;").settles(), 2);
+        e.due("mixed pairs: 5 3 -5 -3 2 -2", Bench.told(SIX + "owes 2 to 1 of 3;owes 2 to 0 of 2;owes 3 to 0 of 3;owes 5 to 4 of 2;").settles(), 3);
         e.says(28, "How many papers SETTLING takes.");
         e.due("no people", new DebtBridge().settles(), 0);
         e.due("no papers", Bench.told(SIX).settles(), 0);

@@ -408,21 +408,28 @@ final class DeedEdges {
     /** Each call by itself, behind others, is undone to what was right ahead of it. */
     private void undoneEach() {
         for (int which = 0; which < 10; which++) {
-            DebtBridge x = Bench.told("planks 2 bear 19;person;person;person at 1;owes 0 to 1 of 3;owes 1 to 0 of 3;owes 2 to 0 of 4;"
-                + "snowy 5;day 1;");
-            Bench.fill(x, 0, 0, 1);
-            Bench.fill(x, 1, 301);
-            x.mend(0);
-            x.days(1);
-            x.tear(2, 0);
-            String before = Sight.ofState(x);
-            int drawn = Bench.drawn(x);
+            // another one is asked what was ahead: asking for x keeps a state, as deeds do
+            DebtBridge other = threeDone();
+            String before = Sight.ofState(other);
+            int drawn = Bench.drawn(other);
+            DebtBridge x = threeDone();
             did(x, which);
             e.due("done: " + which, x.count(10), 4);
             e.due("undone: " + which, x.undo(1), 3);
             e.holds("as ahead of " + which, Sight.ofState(x).equals(before));
             e.due("x as ahead of " + which, Bench.drawn(x), drawn);
         }
+    }
+
+    private static DebtBridge threeDone() {
+        DebtBridge x = Bench.told("planks 2 bear 19;person;person;person at 1;owes 0 to 1 of 3;owes 1 to 0 of 3;owes 2 to 0 of 4;"
+            + "snowy 5;day 1;");
+        Bench.fill(x, 0, 0, 1);
+        Bench.fill(x, 1, 301);
+        x.mend(0);
+        x.days(1);
+        x.tear(2, 0);
+        return x;
     }
 
     private static void did(DebtBridge x, int which) {

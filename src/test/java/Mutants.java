@@ -36,7 +36,8 @@ import javax.tools.ToolProvider;
 
 /**
  * Breaks the class in one place at a time and tells which breaks a test doesn't see. Run by hand,
- * with the compiled tests on the class path: java -cp OUT Mutants EdgeTests. It takes minutes.
+ * with the compiled tests on the class path: java -cp OUT Mutants EdgeTests [line ..]. The whole
+ * takes minutes; of what it tells, most are breaks of what can never be seen.
  */
 public final class Mutants extends TreePathScanner<Void, Void> {
     private static final Path SOURCE = Path.of("src/main/java/DebtBridge.java");
@@ -68,7 +69,9 @@ public final class Mutants extends TreePathScanner<Void, Void> {
     public static void main(String[] args) throws Exception {
         String test = args.length > 0 ? args[0] : "EdgeTests";
         String text = Files.readString(SOURCE);
+        List<String> lines = List.of(args).subList(Math.min(1, args.length), args.length);
         List<Mutant> mutants = all(text);
+        mutants.removeIf(one -> !lines.isEmpty() && !lines.contains("" + one.line));
         ExecutorService workers = Executors.newFixedThreadPool(Runtime.getRuntime().availableProcessors());
         List<Future<String>> ends = new ArrayList<>();
         for (Mutant one : mutants) {

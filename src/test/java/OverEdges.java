@@ -96,6 +96,8 @@ final class OverEdges {
         e.due("none needed", x.tears(1, 0), 0);
         e.due("none needed: nobody", x.tears(1, 1), 0);
         e.due("its only one", x.tears(2, 0) * 100 + x.tears(2, 1), 132);
+        DebtBridge y = Bench.told("planks 2 bear 9;person;person;person;owes 2 to 0 of 10;owes 2 to 1 of 9;");
+        e.due("to the first one", y.tears(2, 0) * 100 + y.tears(2, 1), 101);
         e.due("either would do: the least set", x.tears(3, 1), 16);
         x = Bench.told("planks 2 bear 9;" + SIX + "owes 0 to 1 of 3;owes 0 to 2 of 4;owes 0 to 5 of 7;");
         e.due("one of 7 ahead of two of 3 and 4", x.tears(0, 0) * 100 + x.tears(0, 1), 132);

@@ -144,6 +144,10 @@ final class PaperEdges {
         Bench.fill(x, 2, -1, -1, -1, -1);
         // by 20 21 23 30 31: 2 weighs 4 3 3 5 5, 3 weighs 2 2 2 1 1
         e.due("two alike at most ahead of three", x.weighed(2), 2);
+        x = Bench.told("planks 1 bear 9;person;person;person;owes 0 to 1 of 5;owes 1 to 0 of 3;owes 1 to 2 of 7;weighs:owed+debt*who*10;");
+        Bench.fill(x, 2, -1, -1, -1);
+        // by 01 10 12: 0 weighs 3 0 3, 1 weighs 100 75 35, 2 weighs 7 7 0
+        e.due("all unlike ahead of two alike, apart from one another", x.weighed(2), 1);
         e.says(38, "NONE: there are none; else as torn().");
         x = Bench.told(THREE);
         Bench.fill(x, 2, 9999, -1, -1);
