@@ -84,6 +84,12 @@ final class DebtEdges {
         e.due("no papers", Bench.told(SIX).settles(), 0);
         e.due("all even", Bench.told(SIX + "owes 0 to 1 of 9;owes 1 to 2 of 9;owes 2 to 0 of 9;").settles(), 0);
         e.due("one", Bench.told(SIX + "owes 5 to 4 of 1;").settles(), 1);
+        x = Bench.told(SIX + "owes 0 to 1 of 1;owes 2 to 3 of 2;owes 4 to 5 of 3;owes 1 to 2 of 10;owes 2 to 1 of 10;");
+        e.due("three pairs", x.settles(), 3);
+        x.tear(2, 1);
+        e.due("asked again: -1 -9 8 2, -3 3", x.settles(), 4);
+        x.tear(4, 5);
+        e.due("asked again: -1 -9 8 2", x.settles(), 3);
     }
 
     private static String allOweAll(int amount) {
@@ -274,6 +280,8 @@ final class DebtEdges {
         e.says(35, "NONE: some can't.");
         e.due("the first can't", Bench.told(SIX + "lets:who>0;").mendsAll(), -1);
         e.due("the last can't", Bench.told(SIX + "lets:who<5;").mendsAll(), -1);
+        e.due("all there are can", Bench.told(SIX + "lets:who<6;").mendsAll(), 0);
+        e.due("both there are can", Bench.told("planks 2 bear 20;person;person;lets:who<2;").mendsAll(), 0);
         e.due("none can", Bench.told(SIX + "lets:1=2;").mendsAll(), -1);
         e.due("99 times aren't enough for one", Bench.told("planks 1 bear 9;person;person;weighs:999+who;").mendsAll(), -1);
         e.due("99 times are for both", Bench.told("planks 1 bear 9;person;person;weighs:999-who;").mendsAll(), 99);

@@ -389,6 +389,13 @@ final class DeedEdges {
         x.step(0, false);
         x.days(5);
         e.due("then two", x.count(10), 2);
+        DebtBridge full = Bench.told("planks 2 bear 9;person;day 3;");
+        for (int i = 0; i < 10; i++) {
+            full.days(1);
+        }
+        full.step(0, false);
+        full.step(1, true);
+        e.due("what is refused forgets none of ten", full.undo(10) * 100 + full.count(8), 3);
         e.due("five days are one call", x.undo(1) * 100 + x.count(8), 100);
         e.says(TERMS, "PLACES, debts, PLANKS, DAY, snow, x.");
         x = Bench.told("planks 3 bear 9;person;person at 2;owes 0 to 1 of 9;owes 1 to 0 of 7;weighs:debt+snow*9;snowy 10;");

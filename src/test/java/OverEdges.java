@@ -267,11 +267,11 @@ final class OverEdges {
 
     /** As many as row() lets over, and order() tells the first of these. */
     private void rowByRow() {
-        int[][] bears = {{9}, {8, 9}, {9, 8}, {7, 9, 8}, {9, 7, 9}, {8, 8, 8}, {6, 9, 9}, {9, 9, 6}, {9, 6, 8, 9}, {7, 9, 9, 7}};
-        String[] laws = {"6-who", "3+who", "4+who*who-who*2", "7-who*2", "5", "6-3*who", "2+who*2", "1+who*3"};
+        int[][] bears = {{9}, {8, 9}, {9, 8}, {7, 9, 8}, {9, 7, 9}, {8, 8, 8}, {6, 9, 9}, {9, 9, 6}, {9, 6, 8, 9}, {7, 9, 9, 7}, {20, 9, 20}, {9, 20, 20}, {20, 20, 9}};
+        String[] laws = {"6-who", "3+who", "4+who*who-who*2", "7-who*2", "5", "6-3*who", "2+who*2", "1+who*3", "8-who*4"};
         for (int[] planks : bears) {
             for (String law : laws) {
-                StringBuilder text = new StringBuilder("planks " + planks.length + " bear 9;person;person;person;weighs:" + law + ";");
+                StringBuilder text = new StringBuilder("planks " + planks.length + " bear 0;person;person;person;weighs:" + law + ";");
                 for (int k = 0; k < planks.length; k++) {
                     text.append("plank ").append(k).append(" bears ").append(planks[k]).append(";");
                 }
